@@ -1569,24 +1569,28 @@ public final class BreadScribes {
         boolean findFewest(int set, long crumbs) {
             begin(FIRST, set);
             boolean found = crumbs == 0;
-            for (size = 1; size <= ROW_LIMIT && !found && crumbs > 0; size++) {
-                found = seek(this, 0, 1, crumbs);
+            for (int k = 1; k <= ROW_LIMIT && !found && crumbs > 0; k++) {
+                found = seekRowsOf(k, crumbs);
             }
             return found;
         }
 
         boolean findKindest(int set, long crumbs) {
             begin(KINDEST, set);
-            for (size = 1; size <= ROW_LIMIT; size++) {
-                seek(this, 0, 1, crumbs);
+            for (int k = 1; k <= ROW_LIMIT; k++) {
+                seekRowsOf(k, crumbs);
             }
             return bestSize > 0;
         }
 
         void countAll(int set, long crumbs, int k) {
             begin(ALL, set);
+            seekRowsOf(k, crumbs);
+        }
+
+        private boolean seekRowsOf(int k, long crumbs) {
             size = k;
-            seek(this, 0, 1, crumbs);
+            return seek(this, 0, 1, crumbs);
         }
 
         boolean hasBest(int k) {
@@ -1771,7 +1775,6 @@ public final class BreadScribes {
 
         void lay(int set) {
             size = 0;
-            together[0] = 0;
             for (int slice = 1; slice <= SLICES && size < SET_LIMIT; slice++) {
                 if (isIn(set, slice)) {
                     addSlice(slice);

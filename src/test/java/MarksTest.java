@@ -62,6 +62,12 @@ public final class MarksTest {
         Check.fine(x, "live(0) of those at the MARK", x.live(0), 5);
         Check.fine(x, "man(0, 2)", x.man(0, 2), 1);
         Check.fine(x, "store(1)", x.store(1), 3);
+        BreadScribes z = Check.with("store 2; man a due 1 by 1;", "cut 2 3 6; when lacks a > 0; when holds 3 = 1; bake 1; end; end;");
+        z.mark();
+        Check.days(z, "split 2 3; when holds 6 < 9; bake 9; loop 2; bake 5; end; end;");
+        z.back();
+        Check.fine(z, "live(0) of those at the MARK", z.live(0), 4);
+        Check.fine(z, "lived(0)", z.lived(0), 0);
         BreadScribes y = new BreadScribes();
         y.mark();
         Check.days(y, "stop;");
@@ -133,5 +139,11 @@ public final class MarksTest {
         // NAMES are taken back, too.
         Check.fine(x, "days", Check.days(x, "take a 5;"), 1);
         Check.faulty(x, false, 3, "take ^b 5;");
+        x.mark();
+        Check.bakery(x, "man b due 1 by 3;");
+        Check.bakery(x, "man c due 1 by 3;");
+        Check.fine(x, "back()", x.back(), 0);
+        Check.fine(x, "days", Check.days(x, "give a 5;"), 1);
+        Check.faulty(x, false, 3, "take ^c 5;");
     }
 }

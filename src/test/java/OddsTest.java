@@ -27,6 +27,8 @@ public final class OddsTest {
 
     private static void plateExamples() {
         BreadScribes x = new BreadScribes();
+        Check.fine(x, "plateMove of 3, ahead of any", x.plateMove(Check.set(3)), 3);
+        Check.fine(x, "plateMove of 4", x.plateMove(Check.set(4)), 4);
         Check.fine(x, "plate of none", x.plate(0), 0);
         Check.refused(x, "plateMove of none", x.plateMove(0), 8);
         Check.fine(x, "plate of 1", x.plate(1), 1);

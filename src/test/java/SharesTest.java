@@ -66,6 +66,10 @@ public final class SharesTest {
     }
 
     private static void examples() {
+        BreadScribes alone = knowing(Check.set(2, 3, 4, 5, 6, 8, 10, 12, 15, 20));
+        Check.fraction(alone, "oddsThat(2, 5, 3, 15)", alone.oddsThat(2, 5, 3, 15), 1, 2);
+        alone.learn(15, false);
+        Check.fraction(alone, "oddsThat(2, 5, 3, 20) without 15", alone.oddsThat(2, 5, 3, 20), 1, 1);
         BreadScribes x = knowing(Check.set(2, 3, 4, 5, 6, 8, 10, 12, 15, 20));
         Check.fine(x, "fewest(3, 4)", x.fewest(3, 4), 2);
         Check.fine(x, "fewestAt(3, 4, 0)", x.fewestAt(3, 4, 0), 2);

@@ -101,6 +101,7 @@ public final class TextsTest {
         }
         Check.fine(x, "known all", Check.bakery(x, all + ";"), 0);
         Check.fine(x, "many(4)", x.many(4), (1 << 30) - 1);
+        Check.faulty(x, true, 5, all + " ^1;");
         Check.fine(x, "a has all", Check.bakery(x, "man a due 1 by 1 has" + all.substring(5) + ";"), 1);
         Check.fine(x, "man(0, 2)", x.man(0, 2), (1 << 30) - 1);
     }
@@ -208,6 +209,16 @@ public final class TextsTest {
         Check.fine(x, "man(0, 2)", x.man(0, 2), 0);
         Check.refused(x, "live(0) without DAYS", x.live(0), 8);
         Check.refused(x, "mean(0, 1) without DAYS", x.mean(0, 1), 8);
+        // Nothing of the BAKERY ahead of the one ahead comes up again.
+        Check.fine(x, "bakery", Check.bakery(x, "store 5;"), 0);
+        Check.fine(x, "many(1)", x.many(1), 1);
+        Check.fine(x, "many(3)", x.many(3), 4);
+        Check.fine(x, "many(4)", x.many(4), (1 << 30) - 1);
+        Check.fine(x, "many(5)", x.many(5), 0);
+        Check.fine(x, "come(1, 2)", x.come(1, 2), 0);
+        Check.fine(x, "man(0, 2)", x.man(0, 2), 0);
+        Check.fine(x, "bakery told as it was", Check.bakery(x, "odds 8; store 5; known 3;"), 0);
+        Check.fine(x, "bakery told once more", Check.bakery(x, "odds 8; store 5; known 3;"), 0);
     }
 
     private static void bytesOfNoToken() {
