@@ -163,6 +163,11 @@ public final class SharesTest {
         Check.fine(x, "ask(2, 5, 3)", x.ask(2, 5, 3), 10);
         x.learn(10, false);
         Check.refused(x, "ask(2, 5, 3) of a single ROW", x.ask(2, 5, 3), 8);
+        // 30 alone is in 3 of 6.
+        BreadScribes y = knowing(ALL & ~Check.set(2, 4, 6, 13, 15, 16, 22));
+        Check.fine(y, "ways(9, 18, 5)", y.ways(9, 18, 5), 6);
+        Check.fraction(y, "oddsThat(9, 18, 5, 30)", y.oddsThat(9, 18, 5, 30), 1, 2);
+        Check.fine(y, "ask(9, 18, 5)", y.ask(9, 18, 5), 30);
     }
 
     private static void againstAll(int known, Random random) {
