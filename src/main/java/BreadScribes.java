@@ -305,70 +305,32 @@ public final class BreadScribes {
 
     /** BAKE: how many of SLICE 1 the STORE holds then. */
     public int bake(int n) {
-        if (n < 1 || n > STOCK_LIMIT) {
-            return refuse(BAD_NUMBER);
-        }
-        int status = now.bakeStatus(n);
-        if (status != FINE) {
-            return refuse(status);
-        }
-        now.addLoaves(n);
-        return answer(now.stock[1]);
+        int status = now.addLoaves(n);
+        return status == FINE ? answer(now.stock[1]) : refuse(status);
     }
 
     /** CUT: how many SLICES the STORE holds then. */
     public int cut(int slice, int a, int b) {
-        if (!isSlice(slice) || !isSlice(a) || !isSlice(b)) {
-            return refuse(NO_MAN_OR_SLICE);
-        }
-        int status = now.cutStatus(slice, a, b);
-        if (status != FINE) {
-            return refuse(status);
-        }
-        now.cutUp(slice, a, b);
-        return answer(now.pieces());
+        int status = now.cutUp(slice, a, b);
+        return status == FINE ? answer(now.pieces()) : refuse(status);
     }
 
     /** SPLIT: how many SLICES the STORE holds then. */
     public int split(int slice, int by) {
-        if (!isSlice(slice)) {
-            return refuse(NO_MAN_OR_SLICE);
-        }
-        if (by < 2 || by > SLICES) {
-            return refuse(BAD_NUMBER);
-        }
-        int status = now.splitStatus(slice, by);
-        if (status != FINE) {
-            return refuse(status);
-        }
-        now.splitUp(slice, by);
-        return answer(now.pieces());
+        int status = now.splitUp(slice, by);
+        return status == FINE ? answer(now.pieces()) : refuse(status);
     }
 
     /** GIVE: how many SLICES he HAS then. */
     public int give(int man, int slice) {
-        if (!now.isMan(man) || !isSlice(slice)) {
-            return refuse(NO_MAN_OR_SLICE);
-        }
-        int status = now.giveStatus(man, slice);
-        if (status != FINE) {
-            return refuse(status);
-        }
-        now.handOver(man, slice);
-        return answer(Integer.bitCount(now.having[man]));
+        int status = now.handOver(man, slice);
+        return status == FINE ? answer(Integer.bitCount(now.having[man])) : refuse(status);
     }
 
     /** TAKE: how many SLICES he HAS then. */
     public int take(int man, int slice) {
-        if (!now.isMan(man) || !isSlice(slice)) {
-            return refuse(NO_MAN_OR_SLICE);
-        }
-        int status = now.takeStatus(man, slice);
-        if (status != FINE) {
-            return refuse(status);
-        }
-        now.handBack(man, slice);
-        return answer(Integer.bitCount(now.having[man]));
+        int status = now.handBack(man, slice);
+        return status == FINE ? answer(Integer.bitCount(now.having[man])) : refuse(status);
     }
 
     /** DUE to a MAN is a SHARE from now on. */
@@ -1008,69 +970,85 @@ public final class BreadScribes {
             return stockSet() & ~having[man];
         }
 
-        int bakeStatus(int n) {
-            return stock[1] + n > STOCK_LIMIT ? TOO_MANY : FINE;
-        }
+        // What is done tells its STATUS; with another one than FINE nothing is done.
 
-        void addLoaves(int n) {
+        int addLoaves(int n) {
+            if (n < 1 || n > STOCK_LIMIT) {
+                return BAD_NUMBER;
+            }
+            if (stock[1] + n > STOCK_LIMIT) {
+                return TOO_MANY;
+            }
             stock[1] += n;
+            return FINE;
         }
 
-        int cutStatus(int slice, int a, int b) {
+        int cutUp(int slice, int a, int b) {
+            if (!isSlice(slice) || !isSlice(a) || !isSlice(b)) {
+                return NO_MAN_OR_SLICE;
+            }
             if (stockAfterCut(a, slice, a, b) > STOCK_LIMIT || stockAfterCut(b, slice, a, b) > STOCK_LIMIT) {
                 return TOO_MANY;
             }
-            boolean isSo = a * b == slice * (a + b);
-            return stock[slice] > 0 && isSo ? FINE : CANNOT_BE;
+            if (stock[slice] < 1 || a * b != slice * (a + b)) {
+                return CANNOT_BE;
+            }
+            stock[slice]--;
+            stock[a]++;
+            stock[b]++;
+            cuts++;
+            return FINE;
         }
 
         private int stockAfterCut(int of, int slice, int a, int b) {
             return stock[of] - (of == slice ? 1 : 0) + (of == a ? 1 : 0) + (of == b ? 1 : 0);
         }
 
-        void cutUp(int slice, int a, int b) {
-            stock[slice]--;
-            stock[a]++;
-            stock[b]++;
-            cuts++;
-        }
-
-        int splitStatus(int slice, int by) {
+        int splitUp(int slice, int by) {
+            if (!isSlice(slice)) {
+                return NO_MAN_OR_SLICE;
+            }
+            if (by < 2 || by > SLICES) {
+                return BAD_NUMBER;
+            }
             int part = slice * by;
             if (isSlice(part) && stock[part] + by > STOCK_LIMIT) {
                 return TOO_MANY;
             }
-            return stock[slice] > 0 && isSlice(part) ? FINE : CANNOT_BE;
-        }
-
-        void splitUp(int slice, int by) {
-            int part = slice * by;
-            if (isSlice(part)) {
-                stock[slice]--;
-                stock[part] += by;
-                cuts++;
+            if (stock[slice] < 1 || !isSlice(part)) {
+                return CANNOT_BE;
             }
+            stock[slice]--;
+            stock[part] += by;
+            cuts++;
+            return FINE;
         }
 
-        int giveStatus(int man, int slice) {
-            return stock[slice] > 0 && !isIn(having[man], slice) ? FINE : CANNOT_BE;
-        }
-
-        void handOver(int man, int slice) {
+        int handOver(int man, int slice) {
+            if (!isMan(man) || !isSlice(slice)) {
+                return NO_MAN_OR_SLICE;
+            }
+            if (stock[slice] < 1 || isIn(having[man], slice)) {
+                return CANNOT_BE;
+            }
             stock[slice]--;
             having[man] |= bit(slice);
+            return FINE;
         }
 
-        int takeStatus(int man, int slice) {
+        int handBack(int man, int slice) {
+            if (!isMan(man) || !isSlice(slice)) {
+                return NO_MAN_OR_SLICE;
+            }
             if (stock[slice] >= STOCK_LIMIT) {
                 return TOO_MANY;
             }
-            return isIn(having[man], slice) ? FINE : CANNOT_BE;
-        }
-
-        void handBack(int man, int slice) {
+            if (!isIn(having[man], slice)) {
+                return CANNOT_BE;
+            }
             stock[slice]++;
             having[man] &= ~bit(slice);
+            return FINE;
         }
     }
 
@@ -1862,7 +1840,8 @@ public final class BreadScribes {
 
         private int behindEnd(Days days, int at) {
             int begin = days.mate[at];
-            if (days.kind[begin] == LOOP && rounds[begin] > 1) {
+            boolean isBegin = begin >= 0 && begin < at;
+            if (isBegin && days.kind[begin] == LOOP && rounds[begin] > 1) {
                 rounds[begin]--;
                 return begin + 1;
             }
@@ -1894,11 +1873,11 @@ public final class BreadScribes {
             int against = days.third[at];
             switch (days.kind[at]) {
                 case EVEN:
-                    return bakery.lacking(of) == 0;
+                    return bakery.isMan(of) && bakery.lacking(of) == 0;
                 case HOLDS:
-                    return compares(bakery.stock[of], days.second[at], against);
+                    return isSlice(of) && compares(bakery.stock[of], days.second[at], against);
                 default:
-                    return compares(bakery.lacking(of), days.second[at], against * LOAF);
+                    return bakery.isMan(of) && compares(bakery.lacking(of), days.second[at], against * LOAF);
             }
         }
 
@@ -1918,7 +1897,7 @@ public final class BreadScribes {
                 case GIVE:
                     return handOver(bakery, x, y);
                 case TAKE:
-                    return handBack(bakery, x, y);
+                    return bakery.handBack(x, y) == FINE;
                 default:
                     return addLoaves(bakery, x);
             }
@@ -1935,47 +1914,27 @@ public final class BreadScribes {
         }
 
         private boolean cutUp(Bakery bakery, int slice, int a, int b) {
-            boolean can = bakery.cutStatus(slice, a, b) == FINE;
-            if (can) {
-                bakery.cutUp(slice, a, b);
-                cuts++;
-            }
-            return can;
+            boolean done = bakery.cutUp(slice, a, b) == FINE;
+            cuts += done ? 1 : 0;
+            return done;
         }
 
         private boolean splitUp(Bakery bakery, int slice, int by) {
-            boolean can = bakery.splitStatus(slice, by) == FINE;
-            if (can) {
-                bakery.splitUp(slice, by);
-                cuts++;
-            }
-            return can;
+            boolean done = bakery.splitUp(slice, by) == FINE;
+            cuts += done ? 1 : 0;
+            return done;
         }
 
         private boolean handOver(Bakery bakery, int man, int slice) {
-            boolean can = bakery.giveStatus(man, slice) == FINE;
-            if (can) {
-                bakery.handOver(man, slice);
-                given++;
-            }
-            return can;
-        }
-
-        private static boolean handBack(Bakery bakery, int man, int slice) {
-            boolean can = bakery.takeStatus(man, slice) == FINE;
-            if (can) {
-                bakery.handBack(man, slice);
-            }
-            return can;
+            boolean done = bakery.handOver(man, slice) == FINE;
+            given += done ? 1 : 0;
+            return done;
         }
 
         private boolean addLoaves(Bakery bakery, int n) {
-            boolean can = bakery.bakeStatus(n) == FINE;
-            if (can) {
-                bakery.addLoaves(n);
-                baked += n;
-            }
-            return can;
+            boolean done = bakery.addLoaves(n) == FINE;
+            baked += done ? n : 0;
+            return done;
         }
 
         private int draw(int n) {

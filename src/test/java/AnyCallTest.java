@@ -12,11 +12,12 @@ public final class AnyCallTest {
     }
 
     public static void main(String[] args) {
-        for (int run = 0; run < 400; run++) {
+        for (int run = 0; run < 800; run++) {
             Random random = new Random(run);
             BreadScribes x = Check.with("odds 8; store 1 times 2; store 2; store 3 times 98; store 12; man a due 3 by 4 has 2;"
                     + "man bb due 2 by 5; known 2 3 4 5 6 8 10 12 15 20;", "any; any; loop 3; any; end; give a 3;");
-            for (int i = 0; i < 40; i++) {
+            // Of all that is told each time, an object's 512 calls are enough for four.
+            for (int i = run % 4 == 0 ? 36 : 0; i < 40; i++) {
                 anyCall(x, run, random);
             }
         }

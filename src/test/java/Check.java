@@ -122,7 +122,8 @@ final class Check {
         for (int slice = 1; slice <= 30; slice++) {
             all.append(' ').append(x.store(slice));
         }
-        for (int man = 0; man < x.many(0); man++) {
+        int men = x.many(0);
+        for (int man = 0; man < men; man++) {
             all.append(" man ").append(x.man(man, 0)).append('/').append(x.man(man, 1));
             all.append(' ').append(x.man(man, 2));
         }

@@ -13,6 +13,9 @@ public final class TextsTest {
         bakeryFaults();
         bakeryNumbers();
         bakeryNames();
+        leastKindOfOneToken();
+        firstAlongTheText();
+        textsCutShort();
         bakeryKeepsOldOne();
         bakeryReplaces();
         bytesOfNoToken();
@@ -180,6 +183,74 @@ public final class TextsTest {
         Check.fine(x, "names alike but for a letter", Check.bakery(x,
                 "man a due 1 by 1; man aa due 1 by 1; man ab due 1 by 1; man ba due 1 by 1; man zzzzzzzz due 1 by 1;"
                 + "man zzzzzzzy due 1 by 1;"), 6);
+    }
+
+    /** One TOKEN with several FAULTS has that of the least kind. */
+    private static void leastKindOfOneToken() {
+        String[] noTokens = {"^12345", "odds 3 ^99999;", "store ^00030;", "man ^10000", "man a due 1 by 1 has 3 ^00003",
+            "known 3 ^33333", "odds 16^!", "man ^A due"};
+        for (String text : noTokens) {
+            Check.faulty(new BreadScribes(), true, 1, text);
+        }
+        String[] misplaced = {"odds 3 ^17;", "store 3 ^31;", "store 3 times 99 ^100;", "man a due 1 by 1 ^31;",
+            "odds 3; store ^odds;", "known; man ^known due", "man a due 1 by 1; man b due ^a by", "known 3 4 ^a 3;",
+            MEN + "store ^man", MEN + "odds 3 ^man", "odds ^abcdefghi;"};
+        for (String text : misplaced) {
+            Check.faulty(new BreadScribes(), true, 2, text);
+        }
+        String men = "man a due 1 by 2;";
+        String[] misplacedSteps = {"cut 3 4 12 ^31;", "split 1 2 ^31;", "give a 3 ^0;", "bake 9 ^10;", "any ^0;", "give ^any 3;",
+            "give ^bbbbbbbbb 3;", "when even a ^b;", "any;".repeat(29) + "bake ^bake", "any;".repeat(30) + "^end;",
+            "loop 1;loop 1;loop 1; bake ^loop", "loop 1;loop 1;loop 1;any ^when"};
+        for (String text : misplacedSteps) {
+            Check.faulty(Check.with(men), false, 2, text);
+        }
+        String[] noTokensOfDays = {"bake ^00001;", "any;".repeat(30) + "^!", "loop 1;loop 1;loop 1;^!", "give ^A 3;",
+            "when holds 1 < ^99999;"};
+        for (String text : noTokensOfDays) {
+            Check.faulty(Check.with(men), false, 1, text);
+        }
+        Check.faulty(Check.with(men), false, 6, "any;".repeat(27) + "loop 1;loop 1;loop 1;^loop 1;");
+        Check.faulty(Check.with(men), false, 7, "any;".repeat(26) + "loop 1;loop 1;loop 1;^loop 1;");
+    }
+
+    /** What comes first along the text is told, also if a lesser kind comes behind it. */
+    private static void firstAlongTheText() {
+        String[] bakeries = {"2 odds ^store !", "3 man a due 1 by 1; man ^a ! 99", "4 odds ^17 !", "4 store ^0; 12345",
+            "5 odds 3; ^odds !", "5 known 3 ^3 !", "5 store 3; store ^3 store", "6 " + MEN + "^man a !", "4 known ^31 31",
+            "5 known 30 ^30 31", "4 man a due ^0 by 0", "3 man a due 1 by 1; man ^a due 0"};
+        for (String text : bakeries) {
+            Check.faulty(new BreadScribes(), true, text.charAt(0) - '0', text.substring(2));
+        }
+        String[] days = {"2 any ^any !", "3 give ^b !", "3 give ^b 31;", "4 cut ^31 31 !", "4 cut 1 ^0 0;", "4 split ^0 1;",
+            "6 " + "any;".repeat(30) + "^any !", "7 loop 1;loop 1;loop 1;^loop !", "7 loop 1;loop 1;loop 1;^when x",
+            "3 when lacks ^b < 100;", "2 ^end !"};
+        for (String text : days) {
+            Check.faulty(Check.with("man a due 1 by 2;"), false, text.charAt(0) - '0', text.substring(2));
+        }
+    }
+
+    /** The text is the first n bytes, whatever comes behind them on the tape. */
+    private static void textsCutShort() {
+        String text = "odds 12345; man ahmose due 1 by 2;";
+        int[][] want = {{0, 0, -1}, {3, 2, 0}, {4, 2, 4}, {5, 2, 5}, {6, 2, 6}, {7, 2, 7}, {8, 4, 5}, {9, 4, 5}, {10, 1, 5},
+            {34, 1, 5}, {40, 1, 5}};
+        for (int[] one : want) {
+            BreadScribes x = new BreadScribes();
+            Check.feed(x, text);
+            x.bakery(one[0]);
+            Check.due("bakery(" + one[0] + ") of " + text + ": fault(0)", x.fault(0), one[1]);
+            Check.due("bakery(" + one[0] + ") of " + text + ": fault(1)", x.fault(1), one[2]);
+        }
+        BreadScribes y = new BreadScribes();
+        Check.feed(y, "any; any; bake 12;");
+        Check.fine(y, "days(9)", y.days(9), 2);
+        Check.feed(y, "any; any; bake 12;");
+        Check.refused(y, "days(16), no ; behind bake 1", y.days(16), 10);
+        Check.due("fault(1), the text's length", y.fault(1), 16);
+        Check.feed(y, "any; loop 3; any; ");
+        Check.refused(y, "days(18), no end", y.days(18), 10);
+        Check.due("fault(1), the text's length with its blanks", y.fault(1), 18);
     }
 
     private static void bakeryKeepsOldOne() {
