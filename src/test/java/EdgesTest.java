@@ -48,6 +48,8 @@ public final class EdgesTest {
         lived();
         mean();
         marks();
+        allFull();
+        allEmpty();
         Check.end("EdgesTest");
     }
 
@@ -830,5 +832,84 @@ public final class EdgesTest {
         yes(0, "back() to the only one", x -> x.back());
         given(x -> x.back());
         no(8, "back() without", x -> x.back());
+    }
+
+    private static String ofAll(String ahead, String behind) {
+        StringBuilder text = new StringBuilder();
+        for (int slice = 1; slice <= 30; slice++) {
+            text.append(ahead).append(slice).append(behind);
+        }
+        return text.toString();
+    }
+
+    /** 99 of each SLICE, one who HAS each, and one who HAS none. */
+    private static void allFull() {
+        String text = ofAll("store ", " times 99;") + "man a due 99 by 1 has" + ofAll(" ", "") + ";man b due 1 by 30;";
+        given(x -> bakeryAlone(x, text));
+        yes(2970, "many(1), full", x -> x.many(1));
+        yes(30, "many(2), full", x -> x.many(2));
+        no(7, "bake(1), full", x -> x.bake(1));
+        no(7, "cut(1, 2, 2), full", x -> x.cut(1, 2, 2));
+        no(7, "cut(2, 2, 2), full, 2 to 100", x -> x.cut(2, 2, 2));
+        no(7, "cut(2, 2, 1), full, 1 to 100", x -> x.cut(2, 2, 1));
+        no(7, "split(15, 2), full", x -> x.split(15, 2));
+        no(9, "split(15, 3), full, beyond 30", x -> x.split(15, 3));
+        no(9, "split(16, 2), full, beyond 30", x -> x.split(16, 2));
+        no(9, "give(0, 1), he HAS all", x -> x.give(0, 1));
+        no(9, "give(0, 30), he HAS all", x -> x.give(0, 30));
+        yes(1, "give(1, 30)", x -> x.give(1, 30));
+        no(7, "take(0, 1), full", x -> x.take(0, 1));
+        no(7, "take(1, 30), full, he HAS none", x -> x.take(1, 30));
+        yes(0, "reach(30), full", x -> x.reach(30));
+        no(8, "fill(0), he HAS all", x -> x.fill(0));
+        yes(30, "fillAt(1, 0), full", x -> x.fillAt(1, 0));
+        given(x -> {
+            bakeryAlone(x, text);
+            x.give(1, 30);
+        });
+        yes(29, "take(0, 30), 98 there", x -> x.take(0, 30));
+        yes(0, "take(1, 30), 98 there", x -> x.take(1, 30));
+        no(7, "split(15, 2), 30 to 100", x -> x.split(15, 2));
+        // Whatever the draws, nothing can be: he HAS all, and what comes of a SPLIT would be too many.
+        String one = ofAll("store ", " times 99;") + "man a due 99 by 1 has" + ofAll(" ", "") + ";";
+        for (int odds = 0; odds <= 16; odds += 8) {
+            int told = odds;
+            given(x -> {
+                bakeryAlone(x, one);
+                x.rule(told);
+                Check.days(x, "loop 99; any; take a 1; bake 1; end;");
+                x.live(5);
+            });
+            yes(297, "lived(0) of what can't be, ODDS " + odds, x -> x.lived(0));
+            yes(0, "lived(1) of what can't be", x -> x.lived(1));
+            yes(0, "lived(2) of what can't be", x -> x.lived(2));
+            yes(0, "lived(3) of what can't be", x -> x.lived(3));
+        }
+    }
+
+    /** A BAKERY of nothing: no STORE, no MEN, nothing KNOWN, an empty tape. */
+    private static void allEmpty() {
+        given(x -> bakeryAlone(x, "known;"));
+        yes(0, "many(0), empty", x -> x.many(0));
+        yes(0, "many(1), empty", x -> x.many(1));
+        yes(0, "many(2), empty", x -> x.many(2));
+        yes(0, "many(4), empty", x -> x.many(4));
+        yes(0, "many(6), empty", x -> x.many(6));
+        holds("worth(), empty", x -> x.worth());
+        no(9, "cut(1, 2, 2), empty", x -> x.cut(1, 2, 2));
+        no(9, "split(1, 2), empty", x -> x.split(1, 2));
+        no(8, "reach(1), empty", x -> x.reach(1));
+        no(8, "fewest(1, 2), nothing KNOWN", x -> x.fewest(1, 2));
+        yes(0, "ways(1, 2, 1), nothing KNOWN", x -> x.ways(1, 2, 1));
+        never(8, "oddsThat(1, 2, 1, 2), nothing KNOWN", x -> x.oddsThat(1, 2, 1, 2));
+        no(8, "ask(1, 2, 1), nothing KNOWN", x -> x.ask(1, 2, 1));
+        yes(2, "greedyAt(1, 2, 0), nothing KNOWN", x -> x.greedyAt(1, 2, 0));
+        no(2, "give(0, 1) without MEN", x -> x.give(0, 1));
+        no(2, "take(0, 1) without MEN", x -> x.take(0, 1));
+        never(2, "owe(0, 1, 1) without MEN", x -> x.owe(0, 1, 1));
+        no(5, "bakery(1) of an empty tape", x -> x.bakery(1));
+        no(5, "days(1) of an empty tape", x -> x.days(1));
+        yes(0, "bakery(0) of an empty tape", x -> x.bakery(0));
+        yes(0, "days(0) of an empty tape", x -> x.days(0));
     }
 }

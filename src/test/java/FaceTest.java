@@ -22,6 +22,7 @@ public final class FaceTest {
         face();
         hidden();
         nested();
+        sizes();
         words();
         Check.end("FaceTest");
     }
@@ -77,6 +78,27 @@ public final class FaceTest {
                 boolean isStatic = Modifier.isStatic(field.getModifiers());
                 Check.due(field + " is final if static", !isStatic || Modifier.isFinal(field.getModifiers()), true);
             }
+        }
+    }
+
+    /** Rule 11, and how much "some" may be. */
+    private static void sizes() {
+        Class<?>[] inner = BreadScribes.class.getDeclaredClasses();
+        Check.due("classes, twelve at most", inner.length + 1 <= 12, true);
+        sizesOf(BreadScribes.class);
+        for (Class<?> one : inner) {
+            sizesOf(one);
+        }
+    }
+
+    private static void sizesOf(Class<?> one) {
+        int fields = 0;
+        for (Field field : one.getDeclaredFields()) {
+            fields += Modifier.isStatic(field.getModifiers()) ? 0 : 1;
+        }
+        Check.due(one + ", twenty fields at most", fields <= 20, true);
+        for (Method method : one.getDeclaredMethods()) {
+            Check.due(method + ", seven parameters at most", method.getParameterCount() <= 7, true);
         }
     }
 
