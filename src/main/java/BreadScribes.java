@@ -385,10 +385,7 @@ public final class BreadScribes {
         if (!isShare(p, q)) {
             return refuse(BAD_NUMBER);
         }
-        if (!rows.findFewest(now.known, crumbs(p, q))) {
-            return refuse(THERE_IS_NONE);
-        }
-        return answer(rows.bestSize);
+        return answerSize(rows.findFewest(now.known, crumbs(p, q)));
     }
 
     /** The k-th SLICE of the ROW of the FEWEST. */
@@ -396,10 +393,7 @@ public final class BreadScribes {
         if (!isShare(p, q)) {
             return refuse(BAD_NUMBER);
         }
-        if (!rows.findFewest(now.known, crumbs(p, q)) || !rows.hasBest(k)) {
-            return refuse(THERE_IS_NONE);
-        }
-        return answer(rows.best[k]);
+        return answerSlice(rows.findFewest(now.known, crumbs(p, q)), k);
     }
 
     /** How many ROWS of just k there are. */
@@ -443,10 +437,7 @@ public final class BreadScribes {
         if (!isShare(p, q)) {
             return refuse(BAD_NUMBER);
         }
-        if (!rows.findKindest(now.known, crumbs(p, q)) || !rows.hasBest(k)) {
-            return refuse(THERE_IS_NONE);
-        }
-        return answer(rows.best[k]);
+        return answerSlice(rows.findKindest(now.known, crumbs(p, q)), k);
     }
 
     /** The k-th number of the GREEDY row. */
@@ -519,10 +510,7 @@ public final class BreadScribes {
         if (!now.isMan(man)) {
             return refuse(NO_MAN_OR_SLICE);
         }
-        if (!rows.findFewest(now.giftsFor(man), now.lacking(man))) {
-            return refuse(THERE_IS_NONE);
-        }
-        return answer(rows.bestSize);
+        return answerSize(rows.findFewest(now.giftsFor(man), now.lacking(man)));
     }
 
     /** FILL: the k-th SLICE. */
@@ -530,10 +518,7 @@ public final class BreadScribes {
         if (!now.isMan(man)) {
             return refuse(NO_MAN_OR_SLICE);
         }
-        if (!rows.findFewest(now.giftsFor(man), now.lacking(man)) || !rows.hasBest(k)) {
-            return refuse(THERE_IS_NONE);
-        }
-        return answer(rows.best[k]);
+        return answerSlice(rows.findFewest(now.giftsFor(man), now.lacking(man)), k);
     }
 
     // ---- plates, odds
@@ -677,6 +662,16 @@ public final class BreadScribes {
     private boolean allow() {
         outcome = FINE;
         return true;
+    }
+
+    /** How many SLICES the ROW has that was looked for. */
+    private int answerSize(boolean found) {
+        return found ? answer(rows.bestSize) : refuse(THERE_IS_NONE);
+    }
+
+    /** The k-th SLICE of the ROW that was looked for. */
+    private int answerSlice(boolean found, int k) {
+        return found && rows.hasBest(k) ? answer(rows.best[k]) : refuse(THERE_IS_NONE);
     }
 
     private boolean tell(long top, long bottom) {
